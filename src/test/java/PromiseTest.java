@@ -323,6 +323,8 @@ public final class PromiseTest {
             due("find " + w, wall.find(w), LockerWall.BAD);
         }
         held("find bad", wall, 3, 6, 3);
+        due("take what was found", wall.take(23), 1000);
+        due("find one that went", wall.find(1000), LockerWall.NONE);
         due("latch after find", wall.latch(), 0);
     }
 
