@@ -52,7 +52,7 @@ public final class AskingBoundaryTest extends Boundary {
 
     private static void toldBad() {
         promise("Promise 16, told");
-        for (int what : new int[] {-1, 9, MIN, MAX}) {
+        for (int what : new int[] {-1, 9, 65536, MIN, MAX}) {
             due("BAD: what is not 0 .. 8", inUse(3), told(3, what), BAD);
             due("BAD: what is not 0 .. 8, of a BARE hook", inUse(3), told(4, what), BAD);
         }
@@ -95,7 +95,7 @@ public final class AskingBoundaryTest extends Boundary {
         due("NONE: just behind the last of nine", wall().open(3, 99, times(9, 5)), item(3, 9), NONE);
         due("NONE: the ITEM went", wall().open(3, 99, 5, 6).and(take(3)), item(3, 1), NONE);
         due("NONE: all ITEMS went", wall().open(3, 99, times(10, 5)).and(drop(3, 10, 99)), item(3, 0), NONE);
-        for (int k : new int[] {-1, 11, MIN, MAX}) {
+        for (int k : new int[] {-1, 11, 65536, MIN, MAX}) {
             due("NONE: there is none such", wall().open(3, 99, 5, 6), item(3, k), NONE);
         }
     }

@@ -118,6 +118,10 @@ public final class OneLockerBoundaryTest extends Boundary {
                 due("WRONG (4): not just its CODE", given, open(2, other), WRONG, hasWrongTries(2, 1), held(2, 1, 4));
             }
         }
+        for (int bit = 0; bit < 32; bit++) {
+            due("WRONG (4): all but one bit is its CODE's", wall().and(mount(2, 5, 77)), open(2, 77 ^ 1 << bit), WRONG,
+                hasWrongTries(2, 1), held(2, 1, 4));
+        }
         Given anew = wall().fresh(2, 5).wrongTries(2, 2).and(open(2, 2)).wrongTries(2, 2).and(recode(2, 2));
         due("the tries begin anew once it was opened", anew, open(2, 1), WRONG, hasWrongTries(2, 3), held(2, 1, 4));
         for (int i : END_HOOKS) {
@@ -255,6 +259,7 @@ public final class OneLockerBoundaryTest extends Boundary {
             hasItems(2, 1, 2, 3, 4, 5, 6, 7), held(2, 1, 1));
         due("all, and just m", tenToDrop(), drop(2, 10, 55), 55, hasItems(2), held(2, 1, 1));
         due("all but one, and just m", tenToDrop(), drop(2, 10, 54), 54, hasItems(2, 1), held(2, 1, 1));
+        due("far more than all weigh", tenToDrop(), drop(2, 10, 65536), 55, hasItems(2), held(2, 1, 1));
         due("n comes before m", tenToDrop(), drop(2, 2, 20), 19, hasItems(2, 1, 2, 3, 4, 5, 6, 7, 8), held(2, 1, 1));
         due("m comes before n", tenToDrop(), drop(2, 3, 19), 19, hasItems(2, 1, 2, 3, 4, 5, 6, 7, 8), held(2, 1, 1));
         due("n and m at once", tenToDrop(), drop(2, 2, 19), 19, hasItems(2, 1, 2, 3, 4, 5, 6, 7, 8), held(2, 1, 1));
@@ -262,7 +267,7 @@ public final class OneLockerBoundaryTest extends Boundary {
 
     private static void dropRefused() {
         promise("Promise 12, drop");
-        for (int n : new int[] {0, 11, -1, MIN, MAX}) {
+        for (int n : new int[] {0, 11, -1, 65537, MIN, MAX}) {
             due("BAD: n is not 1 .. 10", tenToDrop(), drop(2, n, 1), BAD);
         }
         for (int i : END_HOOKS) {

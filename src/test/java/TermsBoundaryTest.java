@@ -8,6 +8,7 @@ public final class TermsBoundaryTest extends Boundary {
         badComesBeforeAll();
         bareHooks();
         bareComesBeforeWhatIsTold();
+        eachWallItsOwn();
         lastCallPromised();
         end(TermsBoundaryTest.class);
     }
@@ -20,11 +21,6 @@ public final class TermsBoundaryTest extends Boundary {
             due("all HOOKS are BARE: there is no item", wall(), item(i, 0), BARE);
         }
         due("the latch was not held", wall(), latch(), 0);
-        LockerWall used = new LockerWall();
-        used.mount(0, 1, 1);
-        used.tally();
-        due("all HOOKS are BARE, though another wall's are not", wall(), told(0, 0), 0);
-        due("the latch was not held, though another wall's was", wall(), latch(), 0);
     }
 
     /** An open and a shut locker at each end of the wall, so that a slip by one hook meets a locker. */
@@ -108,6 +104,14 @@ public final class TermsBoundaryTest extends Boundary {
         due("BARE before EMPTY", given, move(1, 5), BARE, held(1, 1, 4));
         due("item: BARE before NONE", given, item(5, 10), BARE);
         due("item: BARE before NONE", given, item(5, -1), BARE);
+    }
+
+    private static void eachWallItsOwn() {
+        promise("Terms, what is the wall's own");
+        due("THE LATCH is the wall's own", wall().and(tally()), latch(), 1);
+        due("THE LATCH is the wall's own, held once more", wall().and(tally()), tally(), 0, latchHeld());
+        due("HOOKS are the wall's own", wall().fresh(0, 9), unmount(0), 1, isBare(0), latchHeld());
+        due("ITEMS are the wall's own", wall().openLeft2(0, 9, 4), put(0, 5), 2, hasItems(0, 4, 5), held(0, 1, 1));
     }
 
     private static void lastCallPromised() {

@@ -132,7 +132,7 @@ public final class WholeWallBoundaryTest extends Boundary {
 
     private static void weighBad() {
         promise("Promise 11, weigh");
-        for (int n : new int[] {-1, 13, 24, MIN, MAX}) {
+        for (int n : new int[] {-1, 13, 24, 65536, MIN, MAX}) {
             due("BAD: n is not 0 .. 12", fullWall(), weigh(0, n), BAD);
             due("BAD: n is not 0 .. 12, behind hook 23", fullWall(), weigh(23, n), BAD);
         }
@@ -185,6 +185,7 @@ public final class WholeWallBoundaryTest extends Boundary {
         due("NONE: two lockers weigh w together", wall().openLeft2(4, 99, 25).openLeft2(5, 99, 25), first(50), NONE,
             held(4, 1, 1), held(5, 1, 1));
         due("NONE: more than one can weigh", wall().openLeft2(4, 1000, 1000), first(1001), NONE, held(4, 1, 1));
+        due("NONE: far more than one can weigh", wall().openLeft2(4, 1000, 1000), first(65536), NONE, held(4, 1, 1));
         due("NONE: the most that w can be", wall().openLeft2(4, 1000, 1000), first(MAX), NONE, held(4, 1, 1));
         due("NONE: all 24 come", fullWallLeft2(), first(25), NONE, heldRow(0, 24, 1));
         due("NONE: the ITEM went", wall().open(4, 99, 50).and(take(4), recode(4, 4)), first(50), NONE, held(4, 1, 1));

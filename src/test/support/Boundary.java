@@ -14,8 +14,9 @@ abstract class Boundary {
     static final int BLOCKED = LockerWall.BLOCKED, FULL = LockerWall.FULL, EMPTY = LockerWall.EMPTY;
     static final int WRONG = LockerWall.WRONG, NONE = LockerWall.NONE;
     static final int MIN = Integer.MIN_VALUE, MAX = Integer.MAX_VALUE;
-    static final int[] NO_HOOKS = {-1, 24, MIN, MAX};
-    static final int[] NO_WEIGHTS = {0, 1001, -1, MIN, MAX};
+    // Those of 65,536 and more would pass where the upper half of a number is not looked at.
+    static final int[] NO_HOOKS = {-1, 24, 65536, MIN, MAX};
+    static final int[] NO_WEIGHTS = {0, 1001, -1, 65537, MIN, MAX};
     static final int[] END_HOOKS = {0, 23};
 
     private static final int HOOKS = 24;
@@ -198,19 +199,22 @@ abstract class Boundary {
         System.out.println(promise + " | " + sentence + " | " + what);
     }
 
-    /** One test: what is not among the changes must be as it is on a twin that did not get the call. */
+    /**
+     * One test: what is not among the changes must be as it is on a twin that did not get the call.
+     * Both walls are in use at once, so that what they shared would be seen.
+     */
     static void due(String said, Given given, Call call, long answer, Change... changes) {
         tests++;
         sentence = said;
         Run twin = new Run();
+        Run run = new Run();
         twin.prepare(given);
+        run.prepare(given);
+        long got = run.ask(call);
         State want = twin.state();
         for (Change change : changes) {
             apply(change, want);
         }
-        Run run = new Run();
-        run.prepare(given);
-        long got = run.ask(call);
         if (got != answer) {
             fault(call.text() + " answered " + got + ", due is " + answer);
         }
